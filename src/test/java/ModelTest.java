@@ -8,8 +8,10 @@ import java.util.Random;
  * all sets, all rows, texts worked out from their signs); every answer is due to be the same.
  */
 public final class ModelTest {
-    private static final int RUNS = 4000;
+    private static final int RUNS = 3000;
     private static final int CALLS = 300;
+    // Calls that come first in some runs, so often that nothing more has room: the numbers that Caller has for them.
+    private static final int[] FILLING = {0, 7, 10, 15, 24, 35, 40, 43};
     private static final int BAD = Due.BAD, NO = Due.NO, FULL = Due.FULL, NONE = Due.NONE, KIND = Due.KIND;
 
     public static void main(String[] args) {
@@ -29,8 +31,9 @@ public final class ModelTest {
         LongTrail x = new LongTrail();
         Model m = new Model();
         StringBuilder log = new StringBuilder();
-        for (int call = 0; call < CALLS; call++) {
-            int kind = r.nextInt(48);
+        int filling = seed % 4 == 0 ? FILLING.length * 50 : 0;
+        for (int call = 0; call < filling + CALLS; call++) {
+            int kind = call < filling ? FILLING[call / 50] : r.nextInt(48);
             long[] two = Caller.call(kind, r, x, m, log);
             if (two[0] != two[1]) {
                 System.out.println("run " + seed + ":" + log + " answered " + two[0] + ", the model " + two[1]);

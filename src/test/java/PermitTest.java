@@ -132,6 +132,11 @@ public final class PermitTest {
         Due.row("no BOX", Due.ints(x.plan(10, 10, 0), x.plan(10, 10, 1), x.plan(10, 10, 2)), 100, 0, 0);
         Due.all("none", Due.NONE, x.plan(10, 9, 0), x.plan(10, 9, 1), x.plan(10, 9, 2));
         Due.is("up", x.plan(11, 10, 0), 100);
+        Due.all("the least PACE and CARRY", Due.NONE, x.plan(1, 20, 0), x.plan(40, 1, 0), x.plan(1, 1, 0));
+        x.length(20);
+        Due.row("the least PACE and CARRY", Due.ints(x.plan(1, 20, 0), x.plan(20, 1, 0), x.plan(19, 1, 0)),
+                400, 1, Due.NONE);
+        x.length(100);
         Due.is("up", x.plan(12, 9, 0), 81);
         x.place(3, 71, 1);
         x.place(2, 50, 1);
@@ -217,7 +222,9 @@ public final class PermitTest {
                 7, Due.NONE, Due.NONE, Due.NONE, 7);
         x.ride(2, 4, 1);
         Due.row("round", Due.ints(x.round(0), x.round(1)), 7, 1);
-        Due.all("round: BAD", Due.BAD, x.round(-1), x.round(5));
+        x.fire(200, 300, 0);
+        Due.is("round", x.round(5), 5);
+        Due.all("round: BAD", Due.BAD, x.round(-1), x.round(6));
     }
 
     private static void picture() {
@@ -270,6 +277,12 @@ public final class PermitTest {
         y.picture(1, 0);
         y.picture(1, 1);
         y.picture(2, 2);
+        LongTrail z = new LongTrail();
+        z.picture(2, 9);
+        z.picture(2, 5);
+        z.picture(1, 4);
+        z.picture(2, 9);
+        Due.row("the next one with the most MILES", Due.ints(z.proved(9, 1), z.proved(9, 2), z.proved(9, 3)), 5, 2, 0);
         Due.row("like ones: the first", Due.ints(y.proved(1, 0), y.proved(1, 1), y.proved(1, 2), y.proved(1, 3)),
                 2, 1, 1, 0);
     }

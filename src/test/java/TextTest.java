@@ -55,6 +55,14 @@ public final class TextTest {
         fault("12", 0);
         fault("cam", 0);
         fault("camps", 0);
+        fault("campz", 0);
+        fault("campa", 0);
+        fault("damp 1", 0);
+        fault("came 1", 0);
+        fault("camp{", 4);
+        fault("camp`", 4);
+        fault("camp 1:", 6);
+        fault("camp /1", 5);
         fault("CAMP 1", 0);
         fault("camp", 4);
         fault("camp  ", 6);

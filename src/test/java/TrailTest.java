@@ -138,6 +138,8 @@ public final class TrailTest {
         Due.is("shut", x.shut(0, 3), 127);
         Due.all("shut: BAD", Due.BAD, x.shut(0, -1), x.shut(0, 128), x.shut(2, 0), x.shut(-1, 0), x.shut(1, 128));
         Due.is("shut: KIND", x.shut(1, 1), Due.KIND);
+        Due.is("shut: on no day", x.shut(0, 0), 3);
+        Due.is("shut", x.shut(0, 3), 0);
         Due.is("shut: as it was", x.told(0, 3), 3);
     }
 
@@ -178,6 +180,16 @@ public final class TrailTest {
     }
 
     private static void burns() {
+        LongTrail late = new LongTrail();
+        for (int i = 0; i < 16; i++) {
+            late.run(60);
+        }
+        late.fire(0, 1, 960960);
+        late.fire(2, 3, 961999);
+        late.fire(4, 5, 959);
+        Due.row("burns on DAY 960", Due.ints(late.burns(0), late.burns(2), late.burns(4)), 1, 0, 0);
+        late.run(1);
+        Due.row("burns on DAY 961", Due.ints(late.burns(0), late.burns(2), late.burns(4)), 0, 1, 0);
         LongTrail x = new LongTrail();
         x.fire(10, 20, 1002);
         x.fire(15, 25, 2002);

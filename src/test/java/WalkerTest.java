@@ -229,6 +229,16 @@ public final class WalkerTest {
         Due.row("the POST is SHUT on DAY 2", Due.ints(x.is(0, 1), x.is(0, 3), x.is(0, 10), x.is(0, 7)), 10, 4, 2, 1);
         x.run(1);
         Due.row("open on DAY 3", Due.ints(x.is(0, 1), x.is(0, 3), x.is(0, 10), x.is(0, 14)), 20, 4, 0, 0);
+        LongTrail late = new LongTrail();
+        late.run(13);
+        late.place(3, 0, 1);
+        late.walker(13, 10, 0, 5, 99);
+        late.shut(0, 1 << 6 | 1 << 1);
+        late.box(0, 0, 2, 0);
+        late.run(1);
+        Due.row("SHUT on DAY 13", Due.ints(late.is(0, 1), late.is(0, 10)), 0, 1);
+        late.run(1);
+        Due.row("open on DAY 14", Due.ints(late.is(0, 1), late.is(0, 10)), 10, 0);
         LongTrail y = new LongTrail();
         y.place(3, 10, 1);
         y.place(3, 15, 1);
@@ -328,6 +338,22 @@ public final class WalkerTest {
         y.walker(0, 10, 0, 9, 1);
         y.run(1);
         Due.row("to the end", Due.walker(y, 0, 0, 13), 3, 20, 10, 8, 0, 0, 0, 1, 0, 0, 0, 0, 0, 20);
+        LongTrail dry = new LongTrail();
+        dry.place(1, 20, 0);
+        dry.fire(10, 20, 9);
+        Due.text(dry, 0, 0, "skip 1");
+        dry.walker(0, 10, 0, 9, 9);
+        dry.run(2);
+        Due.row("no WATER at the other end", Due.ints(dry.is(0, 1), dry.is(0, 5), dry.is(0, 6)), 20, 2, 10);
+        dry.run(1);
+        Due.row("nor as it goes on from there", Due.ints(dry.is(0, 1), dry.is(0, 5), dry.is(0, 6)), 30, 3, 20);
+        LongTrail snow = new LongTrail();
+        snow.place(4, 10, 9);
+        snow.fire(10, 20, 9);
+        Due.text(snow, 0, 0, "skip 1");
+        snow.walker(0, 10, 0, 9, 9);
+        snow.run(2);
+        Due.row("SNOW does not hold it up", Due.ints(snow.is(0, 1), snow.is(0, 13)), 20, 10);
         LongTrail z = new LongTrail();
         z.fire(0, 20, 9);
         Due.text(z, 0, 0, "skip f=0");
@@ -456,6 +482,8 @@ public final class WalkerTest {
         x.walker(3, 40, 0, 20, 99);
         x.box(0, 1, 1, 0);
         Due.row("crowd", Due.ints(x.crowd(1), x.crowd(2), x.crowd(3), x.crowd(4), x.crowd(60)), 1, 2, 2, 3, 3);
+        Due.text(x, 0, 0, "quit w=3");
+        Due.row("crowd by a text", Due.ints(x.crowd(2), x.crowd(4)), 2, 2);
         Due.row("crowd: nothing went by", Due.ints(x.count(16), x.count(4), x.is(0, 1), x.boxTold(0, 4)), 0, 3, 0, 0);
     }
 }
