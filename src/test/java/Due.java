@@ -1,3 +1,5 @@
+import java.util.function.IntUnaryOperator;
+
 /** What all tests of the project use: answers that are due, and texts for the tape. */
 final class Due {
     static final int BAD = -1000000001, NO = -1000000002, FULL = -1000000003, NONE = -1000000005,
@@ -5,8 +7,16 @@ final class Due {
 
     private static int asked = 0;
     private static int wrong = 0;
+    private static int sentences = 0;
+    private static String sentence = "";
 
     private Due() {
+    }
+
+    /** What is asked from here on is asked for this sentence of the document. */
+    static void sentence(String words) {
+        sentences++;
+        sentence = words;
     }
 
     static void is(String call, long got, long want) {
@@ -14,6 +24,20 @@ final class Due {
         if (got != want) {
             wrong++;
             System.out.println(call + " answered " + got + ", due is " + want);
+            if (!sentence.isEmpty()) {
+                System.out.println("    of: " + sentence);
+            }
+        }
+    }
+
+    /** A call with one number takes all from least to most, and refuses the next ones on either side as BAD. */
+    static void bounds(String call, int least, int most, IntUnaryOperator of) {
+        for (int v : new int[] {least, Math.min(least + 1, most), least + (most - least) / 2, Math.max(most - 1, least),
+            most}) {
+            is(call + " takes " + v, of.applyAsInt(v) == BAD ? 0 : 1, 1);
+        }
+        for (int v : new int[] {least - 1, most + 1, Integer.MIN_VALUE, Integer.MAX_VALUE, -1 - most}) {
+            is(call + " refuses " + v, of.applyAsInt(v), BAD);
         }
     }
 
@@ -51,6 +75,14 @@ final class Due {
         return x.text(land, day);
     }
 
+    /** Days go by, 60 at most at once, until a day is open. */
+    static void runTo(LongTrail x, int day) {
+        for (int left = day - x.count(16); left > 0; left -= 60) {
+            x.run(Math.min(60, left));
+        }
+        is("the DAY", x.count(16), day);
+    }
+
     /** Numbers of a walker from what a to what b. */
     static int[] walker(LongTrail x, int walker, int a, int b) {
         int[] got = new int[b - a + 1];
@@ -61,7 +93,8 @@ final class Due {
     }
 
     static void end(String name) {
-        System.out.println(name + ": " + asked + " answers asked, " + wrong + " wrong");
+        String of = sentences == 0 ? "" : " of " + sentences + " sentences";
+        System.out.println(name + ": " + asked + " answers" + of + " asked, " + wrong + " wrong");
         if (wrong != 0) {
             System.exit(1);
         }
