@@ -296,6 +296,16 @@ public final class DayEdgesTest {
         x.box(1, 0, 1, 50);
         x.run(4);
         Due.row("not those elsewhere, nor others'", Due.ints(x.boxTold(0, 4), x.boxTold(1, 4), x.boxTold(2, 4)), 2, 0, 0);
+        LongTrail y = new LongTrail();
+        y.place(3, 0, 1);
+        y.walker(0, 10, 0, 9, 99);
+        for (int i = 0; i < 20; i++) {
+            y.box(0, 0, 1, 50);
+        }
+        y.run(3);
+        Due.row("20 BOXES, 3 DAYS", Due.ints(y.is(0, 14), y.boxTold(0, 4), y.boxTold(19, 4)), 20, 0, 0);
+        y.run(1);
+        Due.row("20 BOXES, the 4th DAY", Due.ints(y.is(0, 14), y.boxTold(0, 4), y.boxTold(19, 4)), 0, 2, 2);
     }
 
     private static void paceMiles() {
@@ -788,8 +798,23 @@ public final class DayEdgesTest {
         x.box(1, 1, 1, 0);
         Due.text(x, 0, 0, "quit 1");
         x.run(1);
+        quitWithTwentyBoxes();
         Due.row("TAKEN stays TAKEN, others' stay OPEN", Due.ints(x.boxTold(0, 4), x.boxTold(1, 4), x.boxTold(2, 4),
                 x.boxTold(3, 4), x.is(0, 14), x.is(1, 14)), 1, 2, 2, 0, 0, 1);
+    }
+
+    private static void quitWithTwentyBoxes() {
+        LongTrail x = new LongTrail();
+        x.place(3, 300, 1);
+        x.walker(0, 10, 0, 9, 9);
+        for (int i = 0; i < 20; i++) {
+            x.box(0, 0, 1, i);
+        }
+        Due.text(x, 0, 0, "quit 1");
+        x.run(1);
+        for (int i = 0; i < 20; i++) {
+            Due.is("BOX " + i + " of 20", x.boxTold(i, 4), 2);
+        }
     }
 
     private static void doneAtTheEnd() {

@@ -15,6 +15,7 @@ public final class ImageEdgesTest {
         checkFirstWrong();
         checkBeyond999();
         checkOfAll();
+        checkOfTen();
         checkFromTheImage();
         keepAnswer();
         keepAgain();
@@ -217,6 +218,23 @@ public final class ImageEdgesTest {
         x.tell(20 + 9 + 10);
         x.tell(4 + 6 + 7);
         Due.is("all count", x.check(2), 0);
+    }
+
+    private static void checkOfTen() {
+        Due.sentence("THE DAYS TOLD: MILES of all WALKERS together, and FOOD of all (ten of them, by the TEXTS)");
+        LongTrail x = new LongTrail();
+        Due.text(x, 0, 1, "quit s=2");
+        for (int i = 0; i < 10; i++) {
+            x.walker(0, i + 1, 0, 20, 99);
+        }
+        x.keep();
+        x.tell(55);
+        x.tell(190);
+        x.tell(110);
+        x.tell(180);
+        x.tell(165 - 1);
+        x.tell(171);
+        Due.is("10, 10, then 9", x.check(3), 0);
     }
 
     private static void checkFromTheImage() {

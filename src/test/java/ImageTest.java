@@ -112,8 +112,7 @@ public final class ImageTest {
         Due.row("new", Due.walker(x, 2, 0, 14), 0, 0, 3, 0, 0, 0, 0, 0, 0, 0, 0, 0, 0, 0, 0);
         Due.is("a new TOWN is not SHUT", x.place(3, 210, 1), 4);
         Due.is("a new TOWN is not SHUT", x.told(4, 3), 0);
-        x.back();
-        Due.row("and again", all(x), before);
+        Due.row("and again", Due.ints(x.back(), x.count(0), x.count(3)), 2, 4, 2);
     }
 
     private static void fill(LongTrail x, int more) {

@@ -158,6 +158,12 @@ public final class PermitEdgesTest {
             Due.is(texts[i], Due.text(x, 0, 0, texts[i]), i);
             Due.is(texts[i] + ": DAY 5 is given to", x.granted(0), first[i]);
         }
+        LongTrail y = new LongTrail();
+        y.wish(4, 1);
+        y.wish(4, 1);
+        y.wish(5, 0);
+        Due.text(y, 0, 0, "draw p=1");
+        Due.row("the one of its DAY alone is first", grants(y), 4, Due.NONE, 5);
     }
 
     private static void firstFreeDay() {
@@ -550,6 +556,20 @@ public final class PermitEdgesTest {
         z.ride(0, 2, 7);
         z.ride(1, 3, 1);
         Due.is("the last one ahead, the first one behind", z.round(0), 7);
+        int[][] orders = {{100, 90, 80, 300, 310, 320}, {300, 310, 320, 80, 100, 90}, {320, 300, 310, 90, 80, 100}};
+        for (int[] miles : orders) {
+            LongTrail o = new LongTrail();
+            o.fire(200, 250, 0);
+            int from = -1;
+            int to = -1;
+            for (int i = 0; i < 6; i++) {
+                o.place(3, miles[i], 1);
+                from = miles[i] == 100 ? i : from;
+                to = miles[i] == 300 ? i : to;
+            }
+            o.ride(from, to, 9);
+            Due.is("whatever their numbers are", o.round(0), 9);
+        }
     }
 
     private static void roundNone() {
@@ -673,6 +693,9 @@ public final class PermitEdgesTest {
         y.picture(0, 0);
         y.picture(1, 11);
         Due.row("not the farthest end", row(y, 11), 2, 3);
+        y.picture(0, 100);
+        y.picture(1, 105);
+        Due.row("nor a row of fewer MILES behind it", row(y, 11), 2, 3);
     }
 
     private static void firstByNumbers() {

@@ -24,6 +24,8 @@ public final class TextEdgesTest {
         anyByteAheadOfTheKey();
         anyByteAtTheEnd();
         blanks();
+        textBehindText();
+        textBehindFault();
         wordsNeedBlanks();
         noTextGoesOn();
         numbersTooLong();
@@ -139,6 +141,8 @@ public final class TextEdgesTest {
                 fault(KEYS[key].substring(0, i) + " 1", i == 0 ? 1 : 0);
             }
             fault(KEYS[key] + KEYS[key].charAt(3) + " 1", 0);
+            fault(KEYS[key] + "a 1", 0);
+            fault(KEYS[key] + "z 1", 0);
             fault(KEYS[key] + KEYS[key] + " 1", 0);
             fault(KEYS[key].toUpperCase() + " 1", 0);
             fault(KEYS[key] + " " + KEYS[key] + " 1", 5);
@@ -288,6 +292,35 @@ public final class TextEdgesTest {
         fault("camp 1" + (char) 0, 6);
         fault("ca mp 1", 0);
         fault("camp 1 0", 7);
+    }
+
+    private static void textBehindText() {
+        Due.sentence("an act that reads it uses it up (nothing of it is left for the next one)");
+        LongTrail x = new LongTrail();
+        x.walker(0, 5, 0, 20, 99);
+        for (int i = 0; i < 12; i++) {
+            Due.is("a TEXT of 96 bytes", Due.text(x, 0, 0, "camp 1-1" + "-0+0".repeat(21) + "+m/5"), i);
+            Due.is("NUMBERS and NAMES of it", x.of(i, 3), 46);
+        }
+        x.run(1);
+        Due.is("it is 1", x.is(0, 12), 0);
+        LongTrail y = new LongTrail();
+        y.walker(0, 5, 0, 20, 99);
+        for (int i = 0; i < 12; i++) {
+            Due.is("a TEXT of 96 bytes", Due.text(y, 0, 0, "camp 1-1" + "-0+0".repeat(21) + "+m-5"), i);
+        }
+        y.run(1);
+        Due.is("it is 0", y.is(0, 12), 1);
+    }
+
+    private static void textBehindFault() {
+        Due.sentence("an act that reads it uses it up, whatever it answers (nothing of a FAULT is left for the next one)");
+        String[] faults = {"x", "1", "?", "camp x", "camp 12345", "camp 1 1", "camp 1m", "camp (1", "camp ((((((((((", "camp !"};
+        for (String fault : faults) {
+            LongTrail x = new LongTrail();
+            Due.is("<" + fault + ">", Due.text(x, 0, 0, fault) <= -100 ? 1 : 0, 1);
+            Due.row("the next one behind <" + fault + ">", Due.ints(Due.text(x, 0, 0, "quit h"), x.of(0, 0), x.of(0, 3)), 0, 2, 1);
+        }
     }
 
     private static void wordsNeedBlanks() {
@@ -565,10 +598,18 @@ public final class TextEdgesTest {
         Due.tape(x, "camp 1+m*222");
         Due.row("its first ones", Due.ints(x.trim(10), x.count(15), x.trim(11), x.count(15)), 10, 10, Due.BAD, 10);
         Due.row("camp 1+m*2", Due.ints(x.text(0, 0), x.of(0, 3)), 0, 3);
+        Due.tape(x, "camp mmmmmmm");
+        x.trim(6);
+        Due.row("letters behind them are gone", Due.ints(x.text(0, 0), x.of(1, 3)), 1, 1);
+        Due.tape(x, "camp 1+m    ");
+        x.trim(7);
+        Due.is("signs behind them are gone", x.text(0, 0), -107);
+        Due.is("a word at the end of 96 bytes", Due.text(x, 0, 0, "camp 1" + " ".repeat(89) + "m"), -195);
+        Due.is("a word at the end of 96 bytes", Due.text(x, 0, 0, "camp 1" + " ".repeat(88) + "+m"), 2);
         Due.tape(x, "camp 1+m*222");
         x.trim(6);
         x.feed('2' << 24 | ' ' << 16 | ' ' << 8 | ' ', ' ' << 24 | ' ' << 16 | ' ' << 8 | ' ', 0x20202020);
-        Due.row("the next bytes come behind them", Due.ints(x.count(15), x.text(0, 0), x.of(1, 3)), 18, 1, 1);
+        Due.row("the next bytes come behind them", Due.ints(x.count(15), x.text(0, 0), x.of(3, 3)), 18, 3, 1);
     }
 
     private static void textBounds() {

@@ -29,6 +29,7 @@ public final class TrailEdgesTest {
         milesOfAFire();
         newObject();
         lengthRefused();
+        lengthOfFullTables();
         placeRefused();
         toldWhat();
         toldWalkers();
@@ -394,6 +395,23 @@ public final class TrailEdgesTest {
                 400, 0, 20, 1);
     }
 
+    private static void lengthOfFullTables() {
+        Due.sentence("NO: a PLACE, FIRE or PICTURE lies beyond it (the last one of a full table)");
+        LongTrail x = new LongTrail();
+        for (int i = 0; i < 16; i++) {
+            x.place(0, 100 + i, 0);
+        }
+        Due.row("16 PLACES", Due.ints(x.length(114), x.length(115), x.length(2000)), Due.NO, 400, 115);
+        for (int i = 0; i < 6; i++) {
+            x.fire(1, 200 + i, 0);
+        }
+        Due.row("6 FIRES", Due.ints(x.length(204), x.length(205), x.length(2000)), Due.NO, 2000, 205);
+        for (int i = 0; i < 20; i++) {
+            x.picture(0, 300 + i);
+        }
+        Due.row("20 PICTURES", Due.ints(x.length(318), x.length(319), x.length(2000)), Due.NO, 2000, 319);
+    }
+
     private static void placeRefused() {
         Due.sentence("BAD (also an a that its KIND can't have: of PLACE, WATER all but 0); NO: there is one at that MILE; "
                 + "FULL.");
@@ -536,7 +554,8 @@ public final class TrailEdgesTest {
         y.place(1, 400, 0);
         y.place(1, 0, 0);
         y.place(5, 200, 1);
-        Due.row("the next one", Due.ints(y.dry(0), y.dry(199), y.dry(200), y.dry(399), y.dry(400)),
-                200, 1, 200, 1, Due.NONE);
+        y.place(2, 300, 1);
+        Due.row("the next one", Due.ints(y.dry(0), y.dry(199), y.dry(200), y.dry(299), y.dry(300), y.dry(399), y.dry(400)),
+                200, 1, 100, 1, 100, 1, Due.NONE);
     }
 }

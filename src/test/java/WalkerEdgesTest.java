@@ -487,5 +487,10 @@ public final class WalkerEdgesTest {
             y.walker(0, 10, 0, 9, 9);
         }
         Due.is("all ten", y.crowd(1), 10);
+        Due.text(y, 0, 1, "quit 1");
+        Due.text(y, 0, 2, "quit 0");
+        Due.is("by the TEXTS: ten, then none", y.crowd(3), 10);
+        y.run(1);
+        Due.is("by the TEXTS: none", y.crowd(3), 0);
     }
 }
