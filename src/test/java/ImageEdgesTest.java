@@ -24,6 +24,7 @@ public final class ImageEdgesTest {
         imageKeepsAllBut();
         imageOfTables();
         imageOfTheEmpty();
+        walkerAsNew();
         countBounds();
         countStates();
         callsAtMost();
@@ -387,6 +388,27 @@ public final class ImageEdgesTest {
         Due.row("a WALKER", Due.walker(x, 0, 0, 14), 0, 0, 1, 0, 0, 0, 0, 0, 0, 0, 0, 0, 0, 0, 1);
         Due.row("a BOX", Due.ints(x.boxTold(0, 0), x.boxTold(0, 1), x.boxTold(0, 2), x.boxTold(0, 3), x.boxTold(0, 4)),
                 0, 0, 1, 5, 0);
+    }
+
+    private static void walkerAsNew() {
+        Due.sentence("As a WALKER comes all these numbers are 0 (behind one that is gone with its DAYS, too)");
+        LongTrail x = new LongTrail();
+        x.fire(0, 10, 0);
+        Due.text(x, 0, 0, "skip 1");
+        Due.text(x, 0, 0, "quit 0");
+        Due.text(x, 0, 0, "camp 0");
+        x.keep();
+        x.walker(0, 2, 0, 1, 1);
+        x.run(3);
+        x.place(3, 12, 1);
+        x.box(0, 0, 1, 99);
+        x.run(1);
+        x.zero(0, 9);
+        x.finds(0, 1);
+        Due.row("one that has some of all", Due.walker(x, 0, 0, 14), 1, 12, 2, 1, 2, 1, 2, 3, 2, 9, 1, 3, 3, 10, 1);
+        x.back();
+        x.walker(1, 7, 0, 1, 1);
+        Due.row("one that comes", Due.walker(x, 0, 0, 14), 0, 0, 7, 0, 0, 0, 0, 0, 0, 0, 0, 0, 0, 0, 0);
     }
 
     private static void countBounds() {
