@@ -1632,10 +1632,11 @@ public final class LongTrail {
         }
 
         private void readPart(int open, int nots) {
+            int name = nameHere();
             if (sort == NUMBER) {
                 addOperand(number);
-            } else if (sort == LETTERS) {
-                readName();
+            } else if (name >= 0) {
+                addOperand(-1 - name);
             } else if (sign == '!' && nots < MOST_OPEN) {
                 nextWord();
                 readPart(open, nots + 1);
@@ -1657,13 +1658,9 @@ public final class LongTrail {
             }
         }
 
-        private void readName() {
-            int name = end - from == 1 ? namesOf(key).indexOf((char) bytes[from]) : -1;
-            if (name < 0) {
-                noteFault();
-            } else {
-                addOperand(-1 - name);
-            }
+        /** The place of the word that is looked at among the names of the key; -1 if it is none of them. */
+        private int nameHere() {
+            return sort == LETTERS && end - from == 1 ? namesOf(key).indexOf((char) bytes[from]) : -1;
         }
 
         private static String namesOf(int key) {

