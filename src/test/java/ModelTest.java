@@ -14,9 +14,12 @@ public final class ModelTest {
     private static final int[] FILLING = {0, 7, 10, 15, 24, 35, 40, 43};
     private static final int BAD = Due.BAD, NO = Due.NO, FULL = Due.FULL, NONE = Due.NONE, KIND = Due.KIND;
 
+    /** Given two numbers: the first run, and how many; without them the runs that .ci/run makes. */
     public static void main(String[] args) {
+        int first = args.length < 2 ? 0 : Integer.parseInt(args[0]);
+        int runs = args.length < 2 ? RUNS : Integer.parseInt(args[1]);
         int wrong = 0;
-        for (int run = 0; run < RUNS && wrong < 10; run++) {
+        for (int run = first; run < first + runs && wrong < 10; run++) {
             wrong += oneRun(run);
         }
         for (int seed = 0; seed < 60000 && wrong < 10; seed++) {
